@@ -800,10 +800,14 @@ public final class MeshWorlds {
         private int open;
         private int partMark;
         private int joinMark;
+        /** The text that is read, copied here so that the calls stay few deep. */
+        private final int[] signs;
+        private int size;
         private int place;
         private int number;
 
         Law() {
+            signs = new int[LONGEST];
             clear();
         }
 
@@ -826,38 +830,45 @@ public final class MeshWorlds {
         /** The place of the first fault, or NONE. */
         int read(Shelf texts, int t) {
             clear();
+            copySigns(texts, t);
             place = 0;
-            int size = texts.sizeOf(t);
             // each round goes on by a place or ends, so there are no more rounds than places
             for (int round = 0; round < size && place < size; round++) {
-                if (!readItem(texts, t)) {
+                if (!readItem()) {
                     return place;
                 }
             }
             return NONE;
         }
 
-        private boolean readItem(Shelf texts, int t) {
-            switch (signAt(texts, t)) {
+        private void copySigns(Shelf texts, int t) {
+            size = texts.sizeOf(t);
+            for (int i = 0; i < size && i < LONGEST; i++) {
+                signs[i] = texts.get(t, i);
+            }
+        }
+
+        private boolean readItem() {
+            switch (sign()) {
                 case BLANK:
                     place++;
                     return true;
                 case 'F':
                     place++;
-                    return readGiven(texts, t);
+                    return readGiven();
                 case 'O':
                     place++;
-                    return readOpen(texts, t);
+                    return readOpen();
                 case 'P':
                     place++;
-                    if (!readNumber(texts, t, 6) || number == 0) {
+                    if (!readNumber(6) || number == 0) {
                         return false;
                     }
                     partMark = number;
                     return true;
                 case 'J':
                     place++;
-                    if (!readNumber(texts, t, 6)) {
+                    if (!readNumber(6)) {
                         return false;
                     }
                     joinMark = number;
@@ -867,16 +878,16 @@ public final class MeshWorlds {
             }
         }
 
-        private boolean readGiven(Shelf texts, int t) {
-            if (!readNumber(texts, t, 2)) {
+        private boolean readGiven() {
+            if (!readNumber(2)) {
                 return false;
             }
             int upperNumber = number;
-            if (signAt(texts, t) != '/') {
+            if (sign() != '/') {
                 return false;
             }
             place++;
-            if (!readNumber(texts, t, 2) || number == 0 || upperNumber > number) {
+            if (!readNumber(2) || number == 0 || upperNumber > number) {
                 return false;
             }
             n = upperNumber;
@@ -884,33 +895,33 @@ public final class MeshWorlds {
             return true;
         }
 
-        private boolean readOpen(Shelf texts, int t) {
-            int sign = signAt(texts, t);
-            if (sign != '0' && sign != '1') {
+        private boolean readOpen() {
+            int read = sign();
+            if (read != '0' && read != '1') {
                 return false;
             }
-            open = sign - '0';
+            open = read - '0';
             place++;
             return true;
         }
 
-        private boolean readNumber(Shelf texts, int t, int digits) {
+        private boolean readNumber(int digits) {
             int start = place;
             number = 0;
             for (int i = 0; i < digits; i++) {
-                int sign = signAt(texts, t);
-                if (sign < '0' || sign > '9') {
+                int read = sign();
+                if (read < '0' || read > '9') {
                     break;
                 }
-                number = 10 * number + sign - '0';
+                number = 10 * number + read - '0';
                 place++;
             }
             return place > start;
         }
 
         /** The end is told by 0, which no item has in it. */
-        private int signAt(Shelf texts, int t) {
-            return texts.get(t, place);
+        private int sign() {
+            return place >= 0 && place < size && place < LONGEST ? signs[place] : 0;
         }
 
         long fold(long start) {

@@ -255,8 +255,15 @@ public final class CellsTest {
         CHECK.finds(x, "join(0)", Check.NOTHING, () -> x.join(0));
         CHECK.finds(x, "join(79)", Check.NOTHING, () -> x.join(79));
         x.part(0);
+        for (int q = 0; q < 4; q++) {
+            x.part(16 + q);
+            CHECK.finds(x, "join(0) of three", Check.NOTHING, () -> x.join(0));
+            x.join(16 + q);
+            x.see(16 + q, false);
+            CHECK.finds(x, "join(0) with a SEEN one", Check.UNLIKE, () -> x.join(0));
+            x.see(16 + q, true);
+        }
         x.part(18);
-        CHECK.finds(x, "join(0) of three", Check.NOTHING, () -> x.join(0));
         for (int q = 0; q < 4; q++) {
             x.amount(88 + q, 250000);
             x.give(88 + q, q + 1);

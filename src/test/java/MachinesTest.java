@@ -73,6 +73,14 @@ public final class MachinesTest {
         CHECK.due("bears(0, 3)", x.bears(0, 3), 900);
         x.give(3, 1);
         CHECK.due("bears(0, 3)", x.bears(0, 3), 800);
+        x.amount(0, 801);
+        CHECK.due("bears(0, 3) of the first cell", x.bears(0, 3), 801);
+        x.part(15);
+        x.part(79);
+        x.amount(335, 802);
+        CHECK.due("bears(0, 3) of the last cell", x.bears(0, 3), 802);
+        x.join(79);
+        x.join(15);
         x.machine(2, 3);
         CHECK.due("bears(2, 3) without", x.bears(2, 3), 0);
         x.machine(3, 4);

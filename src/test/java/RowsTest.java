@@ -83,6 +83,13 @@ public final class RowsTest {
         rowIs(x, 0, 10, 10, 11, 12, 13);
         CHECK.due("copy(0, 1, 0, 0, 4)", x.copy(0, 1, 0, 0, 4), 1);
         rowIs(x, 0, 10, 11, 12, 13, 13);
+        x.row(5, 40);
+        x.lay(5, 38, 7);
+        x.lay(5, 39, 8);
+        x.row(3, 4);
+        CHECK.due("copy(5, 38, 3, 1, 2)", x.copy(5, 38, 3, 1, 2), 1);
+        rowIs(x, 3, 0, 7, 8, 0);
+        rowIs(x, 0, 10, 11, 12, 13, 13);
     }
 
     private static void rowIs(MeshWorlds x, int r, int... want) {

@@ -243,6 +243,32 @@ public final class TicksTest {
         }
         x.amount(x.at(3, 4), 500004);
         CHECK.refused(x, "tick() beyond", MeshWorlds.STATE, x::tick);
+        firstAndLast();
+    }
+
+    private static void firstAndLast() {
+        MeshWorlds x = new MeshWorlds();
+        CHECK.law(x, "F1/1");
+        x.edge(1, false);
+        x.edge(4, false);
+        x.amount(1, 1000000);
+        x.amount(4, 1000000);
+        x.amount(0, 999999);
+        CHECK.refused(x, "tick() with 0 beyond", MeshWorlds.STATE, x::tick);
+        x.amount(0, 999998);
+        CHECK.due("tick() with 0 at the end", x.tick(), 0);
+        CHECK.amountIs(x, 0, 1000000);
+        MeshWorlds y = new MeshWorlds();
+        CHECK.law(y, "F1/1");
+        y.part(15);
+        y.part(79);
+        y.amount(335, 999999);
+        y.amount(333, 1000000);
+        y.amount(334, 1000000);
+        CHECK.refused(y, "tick() with 335 beyond", MeshWorlds.STATE, y::tick);
+        y.amount(335, 999998);
+        CHECK.due("tick() with 335 at the end", y.tick(), 0);
+        CHECK.amountIs(y, 335, 1000000);
     }
 
     private static void flowOfTheLatestTick() {
