@@ -66,6 +66,11 @@ public final class CellsTest {
         CHECK.finds(x, "fill(0) beyond", Check.UNLIKE, () -> x.fill(0));
         x.lay(0, 15, -1);
         CHECK.finds(x, "fill(0) below", Check.UNLIKE, () -> x.fill(0));
+        x.lay(0, 15, 0);
+        x.lay(0, 0, -1);
+        CHECK.finds(x, "fill(0) below at first", Check.UNLIKE, () -> x.fill(0));
+        x.lay(0, 0, 0);
+        x.lay(0, 15, -1);
         // an amount that is none counts even if its cell is not there
         x.part(15);
         CHECK.finds(x, "fill(0) below, parted", Check.UNLIKE, () -> x.fill(0));
@@ -153,6 +158,12 @@ public final class CellsTest {
         x.see(16, true);
         x.see(16, false);
         CHECK.due("mark(16, 2) told anew", x.mark(16, 2), 5);
+        x.amount(16, 0);
+        x.amount(17, 800);
+        x.tick();
+        CHECK.due("mark(16, 2) that was 0", x.mark(16, 2), 0);
+        x.amount(17, 0);
+        x.amount(16, 5);
         // a tick that is refused leaves it
         x.tick();
         x.amount(16, 9);

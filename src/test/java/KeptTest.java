@@ -190,6 +190,9 @@ public final class KeptTest {
         CHECK.due("count(5)", x.count(5), 0);
         CHECK.due("work(5)", x.work(5), 0);
         CHECK.refused(x, "stops(1)", MeshWorlds.STATE, () -> x.stops(1));
+        x.machine(0, 4);
+        CHECK.due("stops(3) to the first", x.stops(3), 0);
+        CHECK.due("work(0)", x.work(0), 15);
     }
 
     private static void odds() {

@@ -258,6 +258,10 @@ public final class MachinesTest {
         }
         CHECK.due("run(1, 3)", x.run(1, 3), 11);
         ranAre(x, new int[] {7, 3, 11}, new int[] {1, 0, 1});
+        for (int c = 0; c < 16; c++) {
+            x.freeze(c, false);
+        }
+        CHECK.due("run(20, 0) of none to work", x.run(20, 0), 0);
     }
 
     private static void ranAre(MeshWorlds x, int[] ends, int[] waited) {

@@ -128,5 +128,8 @@ public final class TruthTest {
         x.part(40);
         CHECK.due("off(5, 1) beside smaller ones", x.off(5, 1), 5);
         CHECK.due("off(176, 2)", x.off(176, 2), 8);
+        x.part(0);
+        x.part(16);
+        CHECK.due("off(81, 1) with one side at the rim", x.off(81, 1), 4);
     }
 }
