@@ -107,9 +107,10 @@ public final class ToldTest {
     }
 
     private static void digests() {
-        MeshWorlds x = new MeshWorlds();
-        CHECK.due("digest() at first", x.digest(), byHand(x, new long[] {0, 1, 0, -1, -1, 0, 0},
+        MeshWorlds first = new MeshWorlds();
+        CHECK.due("digest() at first", first.digest(), byHand(first, new long[] {0, 1, 0, -1, -1, 0, 0},
                 new long[] {-1, -1, -1, -1, -1, -1}, new long[] {-1, -1, -1, -1}));
+        MeshWorlds x = new MeshWorlds();
         x.row(1, 2);
         x.lay(1, 0, -5);
         x.lay(1, 1, 9);
