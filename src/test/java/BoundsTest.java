@@ -30,7 +30,8 @@ public final class BoundsTest {
         int looked = 0;
         for (Run run : Run.all()) {
             looked += run.looked();
-            tell(run.looked() > 0, "promise " + run.promise + " '" + run.sentence + "' has a test that looks at nothing");
+            tell(run.looked() > 0,
+                    "promise " + run.promise + " '" + run.sentence + "' has a test that looks at nothing");
             for (String fault : run.faults()) {
                 tell(false, "promise " + run.promise + " '" + run.sentence + "': " + fault);
             }
@@ -56,7 +57,8 @@ public final class BoundsTest {
     private static void compareWith(Doc doc) {
         tell(doc.isWhole(), "the document was not read whole");
         for (Run run : Run.all()) {
-            tell(doc.says(run.promise, run.sentence), "the document does not say '" + run.sentence + "' for promise " + run.promise);
+            tell(doc.says(run.promise, run.sentence),
+                    "the document does not say '" + run.sentence + "' for promise " + run.promise);
         }
         for (int promise = 1; promise <= doc.size(); promise++) {
             for (String piece : doc.piecesOf(promise)) {
@@ -69,7 +71,7 @@ public final class BoundsTest {
         }
     }
 
-    /** A promise's piece needs a test of that promise; a piece of the terms one of any, which names more of it than a word. */
+    /** A promise's piece needs a test of that promise; a piece of the terms one of any, which names more than a word. */
     private static boolean hasTest(int promise, String piece) {
         for (Run run : Run.all()) {
             boolean counts = promise == 0 ? run.sentence.contains(" ") : run.promise == promise;
@@ -90,7 +92,8 @@ public final class BoundsTest {
         // over() answers BAD by 0, so that nothing tells it from another answer
         for (String word : REFUSALS) {
             boolean named = text.matches("(?s).*\\b" + word + "\\b.*") && !text.contains(word + ": 0");
-            tell(!named || met.contains(word), "promise " + promise + " names " + word + ", but no test of it is refused so");
+            tell(!named || met.contains(word),
+                    "promise " + promise + " names " + word + ", but no test of it is refused so");
         }
     }
 }

@@ -79,14 +79,17 @@ final class RowsBounds {
                 .bad("lay(-1, 0, 1)", "lay(6, 0, 1)", "lay(MIN, 0, 1)", "lay(MAX, 0, 1)");
         Run.test(3, "the first of these that fits, in this order").bad("lay(6, -1, 1)", "lay(-1, 40, 1)");
         Run.test(3, "NOTHING").make("row(0, 1)", "row(2, 1)").finds(Run.NOTHING, "lay(1, 0, 1)", "lay(5, 0, 1)");
-        Run.test(3, "NOTHING").make("row(1, 3)", "tear(1)").finds(Run.NOTHING, "lay(1, 0, 1)", "lay(1, -1, 1)", "lay(1, 40, 1)");
+        Run.test(3, "NOTHING").make("row(1, 3)", "tear(1)")
+                .finds(Run.NOTHING, "lay(1, 0, 1)", "lay(1, -1, 1)", "lay(1, 40, 1)");
         Run.test(3, "BEYOND").make("row(0, 3)").due("lay(0, 2, 8)", 1).due("lay(0, 0, 7)", 1)
-                .finds(Run.BEYOND, "lay(0, 3, 1)", "lay(0, -1, 1)", "lay(0, 40, 1)", "lay(0, MAX, 1)", "lay(0, MIN, 1)");
+                .finds(Run.BEYOND, "lay(0, 3, 1)", "lay(0, -1, 1)", "lay(0, 40, 1)", "lay(0, MAX, 1)",
+                "lay(0, MIN, 1)");
         Run.test(3, "BEYOND").make("row(0, 0)").finds(Run.BEYOND, "lay(0, 0, 1)", "lay(0, -1, 1)");
         Run.test(3, "BEYOND").make("row(0, 40)", "row(1, 40)").due("lay(0, 39, 8)", 1)
                 .finds(Run.BEYOND, "lay(0, 40, 1)", "lay(1, -1, 1)");
         // behind a shorter one's end
-        Run.test(3, "2 BEYOND (a place that there is not").make("row(0, 40)", "row(0, 2)").finds(Run.BEYOND, "lay(0, 2, 1)", "lay(0, 39, 1)");
+        Run.test(3, "2 BEYOND (a place that there is not").make("row(0, 40)", "row(0, 2)")
+                .finds(Run.BEYOND, "lay(0, 2, 1)", "lay(0, 39, 1)");
     }
 
     private static void tear() {
@@ -97,13 +100,15 @@ final class RowsBounds {
                 .due("tear(0)", 1).due("tear(5)", 1);
         Run.test(4, "NOTHING").make("row(1, 1)").finds(Run.NOTHING, "tear(0)", "tear(2)", "tear(5)");
         Run.test(4, "NOTHING").make("row(1, 1)", "tear(1)").finds(Run.NOTHING, "tear(1)");
-        Run.test(4, "or missing (at first)").finds(Run.NOTHING, "tear(0)", "tear(1)", "tear(2)", "tear(3)", "tear(4)", "tear(5)");
+        Run.test(4, "or missing (at first)")
+                .finds(Run.NOTHING, "tear(0)", "tear(1)", "tear(2)", "tear(3)", "tear(4)", "tear(5)");
         // it can be there again, and its ints are 0
         Run.test(4, "A ROW is missing: 1").make("row(2, 2)", "lay(2, 0, 5)", "tear(2)", "row(2, 2)").rowIs(2, 0, 0);
     }
 
     private static void copy() {
-        String said = "n places of a ROW, from one on, come to those of another one (perhaps itself) from one on, as if taken ahead: 1";
+        String said = "n places of a ROW, from one on, come to those of another one (perhaps itself) from one "
+                + "on, as if taken ahead: 1";
         rowOfFive(Run.test(5, said)).make("row(1, 3)").due("copy(0, 2, 1, 0, 3)", 1).rowIs(1, 12, 13, 14)
                 .rowIs(0, 10, 11, 12, 13, 14);
         rowOfFive(Run.test(5, said)).make("row(1, 4)").due("copy(0, 0, 1, 1, 2)", 1).rowIs(1, 0, 10, 11, 0);
@@ -115,44 +120,50 @@ final class RowsBounds {
                 .due("copy(0, 5, 0, 5, 0)", 1).due("copy(0, 0, 0, 0, 0)", 1);
         Run.test(5, said).make("row(3, 0)", "row(4, 0)").due("copy(3, 0, 4, 0, 0)", 1).due("copy(3, 0, 3, 0, 0)", 1);
         // full rows, whole
-        Run.test(5, said).make("row(4, 40)", "row(5, 40)", "lay(4, 0, 1)", "lay(4, 39, 2)").due("copy(4, 0, 5, 0, 40)", 1)
-                .due("lay(5, 0, 0)", 1).asked(1).due("lay(5, 39, 0)", 1).asked(2);
+        Run.test(5, said).make("row(4, 40)", "row(5, 40)", "lay(4, 0, 1)", "lay(4, 39, 2)")
+                .due("copy(4, 0, 5, 0, 40)", 1).due("lay(5, 0, 0)", 1).asked(1).due("lay(5, 39, 0)", 1).asked(2);
         Run.test(5, said).make("row(4, 40)", "row(5, 40)", "lay(4, 39, 2)").due("copy(4, 39, 5, 39, 1)", 1)
                 .due("lay(5, 39, 0)", 1).asked(2);
     }
 
     private static Run rowOfFive(Run run) {
-        return run.make("row(0, 5)", "lay(0, 0, 10)", "lay(0, 1, 11)", "lay(0, 2, 12)", "lay(0, 3, 13)", "lay(0, 4, 14)");
+        return run.make("row(0, 5)", "lay(0, 0, 10)", "lay(0, 1, 11)", "lay(0, 2, 12)", "lay(0, 3, 13)",
+                "lay(0, 4, 14)");
     }
 
     private static void copyRefused() {
         Run.test(5, "BAD").make("row(0, 1)", "row(5, 1)").due("copy(0, 0, 5, 0, 1)", 1).due("copy(5, 0, 0, 0, 1)", 1)
                 .bad("copy(-1, 0, 0, 0, 1)", "copy(6, 0, 0, 0, 1)", "copy(0, 0, -1, 0, 1)", "copy(0, 0, 6, 0, 1)")
                 .bad("copy(MIN, 0, 0, 0, 1)", "copy(0, 0, MAX, 0, 1)");
-        Run.test(5, "the first of these that fits, in this order").make("row(0, 1)")
-                .bad("copy(6, 0, 0, 0, -1)", "copy(0, 0, 6, 0, -1)", "copy(6, 0, 1, 0, 1)", "copy(1, 0, 6, 0, 1)", "copy(6, 9, 0, 9, 9)");
+        Run.test(5, "the first of these that fits, in this order").make("row(0, 1)").bad("copy(6, 0, 0, 0, -1)",
+                "copy(0, 0, 6, 0, -1)", "copy(6, 0, 1, 0, 1)", "copy(1, 0, 6, 0, 1)", "copy(6, 9, 0, 9, 9)");
         Run.test(5, "SIZE: n below 0").make("row(0, 2)", "row(1, 2)").due("copy(0, 0, 1, 0, 0)", 1)
                 .finds(Run.SIZE, "copy(0, 0, 1, 0, -1)", "copy(0, 0, 1, 0, MIN)", "copy(0, 1, 0, 1, -1)");
         Run.test(5, "SIZE: n below 0; NOTHING: either; BEYOND: not so many there").make("row(0, 2)")
                 .finds(Run.SIZE, "copy(2, 0, 0, 0, -1)", "copy(0, 0, 2, 0, -1)", "copy(0, 9, 0, 9, -1)")
                 .finds(Run.NOTHING, "copy(2, 9, 0, 9, 9)", "copy(0, 9, 2, 9, 9)", "copy(0, -1, 2, 0, 1)");
-        Run.test(5, "NOTHING: either").make("row(0, 2)").finds(Run.NOTHING, "copy(0, 0, 1, 0, 1)", "copy(1, 0, 0, 0, 1)")
-                .finds(Run.NOTHING, "copy(1, 0, 2, 0, 1)", "copy(1, 0, 1, 0, 0)", "copy(0, 0, 1, 0, 0)", "copy(1, 0, 0, 0, 0)");
+        Run.test(5, "NOTHING: either").make("row(0, 2)")
+                .finds(Run.NOTHING, "copy(0, 0, 1, 0, 1)", "copy(1, 0, 0, 0, 1)").finds(Run.NOTHING,
+                "copy(1, 0, 2, 0, 1)", "copy(1, 0, 1, 0, 0)", "copy(0, 0, 1, 0, 0)", "copy(1, 0, 0, 0, 0)");
     }
 
     private static void copyBeyond() {
         rowOfFive(Run.test(5, "BEYOND: not so many there")).make("row(1, 3)").due("copy(0, 2, 1, 0, 3)", 1)
-                .finds(Run.BEYOND, "copy(0, 3, 1, 0, 3)", "copy(0, 5, 1, 0, 1)", "copy(0, 0, 1, 0, 4)", "copy(0, 0, 1, 3, 1)")
-                .finds(Run.BEYOND, "copy(0, 0, 1, 1, 3)", "copy(0, -1, 1, 0, 1)", "copy(0, 0, 1, -1, 1)", "copy(1, 0, 0, 0, 4)");
+                .finds(Run.BEYOND, "copy(0, 3, 1, 0, 3)", "copy(0, 5, 1, 0, 1)", "copy(0, 0, 1, 0, 4)",
+                "copy(0, 0, 1, 3, 1)").finds(Run.BEYOND, "copy(0, 0, 1, 1, 3)", "copy(0, -1, 1, 0, 1)",
+                "copy(0, 0, 1, -1, 1)", "copy(1, 0, 0, 0, 4)");
         // sums that wrap around
-        rowOfFive(Run.test(5, "BEYOND: not so many there"))
-                .finds(Run.BEYOND, "copy(0, MAX, 0, 0, 1)", "copy(0, 0, 0, MAX, 1)", "copy(0, 1, 0, 0, MAX)", "copy(0, 0, 0, 1, MAX)")
-                .finds(Run.BEYOND, "copy(0, MAX, 0, MAX, MAX)", "copy(0, MIN, 0, 0, MAX)", "copy(0, 0, 0, MIN, MAX)", "copy(0, MIN, 0, 0, 0)");
+        rowOfFive(Run.test(5, "BEYOND: not so many there")).finds(Run.BEYOND, "copy(0, MAX, 0, 0, 1)",
+                "copy(0, 0, 0, MAX, 1)", "copy(0, 1, 0, 0, MAX)", "copy(0, 0, 0, 1, MAX)").finds(Run.BEYOND,
+                "copy(0, MAX, 0, MAX, MAX)", "copy(0, MIN, 0, 0, MAX)", "copy(0, 0, 0, MIN, MAX)",
+                "copy(0, MIN, 0, 0, 0)");
         // none from a place that there is not
-        rowOfFive(Run.test(5, "2 BEYOND (a place that there is not")).due("copy(0, 5, 0, 0, 0)", 1).due("copy(0, 0, 0, 5, 0)", 1)
-                .finds(Run.BEYOND, "copy(0, 6, 0, 0, 0)", "copy(0, 0, 0, 6, 0)", "copy(0, -1, 0, 0, 0)", "copy(0, 0, 0, -1, 0)");
+        rowOfFive(Run.test(5, "2 BEYOND (a place that there is not")).due("copy(0, 5, 0, 0, 0)", 1)
+                .due("copy(0, 0, 0, 5, 0)", 1).finds(Run.BEYOND, "copy(0, 6, 0, 0, 0)", "copy(0, 0, 0, 6, 0)",
+                "copy(0, -1, 0, 0, 0)", "copy(0, 0, 0, -1, 0)");
         Run.test(5, "BEYOND: not so many there").make("row(0, 40)", "row(1, 40)").due("copy(0, 0, 1, 0, 40)", 1)
-                .finds(Run.BEYOND, "copy(0, 0, 1, 0, 41)", "copy(0, 1, 1, 0, 40)", "copy(0, 0, 1, 1, 40)", "copy(0, 0, 0, 1, 40)");
+                .finds(Run.BEYOND, "copy(0, 0, 1, 0, 41)", "copy(0, 1, 1, 0, 40)", "copy(0, 0, 1, 1, 40)",
+                "copy(0, 0, 0, 1, 40)");
         Run.test(5, "BEYOND: not so many there").make("row(0, 0)", "row(1, 1)")
                 .finds(Run.BEYOND, "copy(0, 0, 1, 0, 1)", "copy(1, 0, 0, 0, 1)");
     }

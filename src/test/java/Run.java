@@ -75,6 +75,14 @@ final class Run {
         return this;
     }
 
+    /** All 256 CELLS of side 1. */
+    Run partAll() {
+        for (int c = 0; c < 80; c++) {
+            make("part(" + c + ")");
+        }
+        return this;
+    }
+
     Run due(String call, long want) {
         return holds(call, answer(call), want);
     }

@@ -30,15 +30,19 @@ final class TextsBounds {
         for (int i = 0; i < 40; i++) {
             full.due("put(0, " + i + ", 65)", 1032);
         }
-        Run.test(7, "A TEXT is there with n blanks: n").due("text(3, 0)", 0).due("count(8)", 1).due("fault(3)", MeshWorlds.NONE);
+        Run.test(7, "A TEXT is there with n blanks: n").due("text(3, 0)", 0).due("count(8)", 1)
+                .due("fault(3)", MeshWorlds.NONE);
         Run.test(7, "A TEXT is there with n blanks: n").due("text(2, 1)", 1).due("put(2, 0, 65)", 1032);
         // one that is there is made anew, shorter or longer
-        Run.test(7, "A TEXT is there with n blanks: n").make("text(1, 40)", "put(1, 0, 65)", "put(1, 39, 66)").due("text(1, 1)", 1)
-                .due("put(1, 0, 65)", 1032).due("text(1, 40)", 40).due("put(1, 39, 65)", 1032).due("count(8)", 1);
+        Run.test(7, "A TEXT is there with n blanks: n").make("text(1, 40)", "put(1, 0, 65)", "put(1, 39, 66)")
+                .due("text(1, 1)", 1).due("put(1, 0, 65)", 1032).due("text(1, 40)", 40).due("put(1, 39, 65)", 1032)
+                .due("count(8)", 1);
         // its neighbours stay
-        Run.test(7, "A TEXT is there with n blanks: n").make("text(0, 40)", "put(0, 39, 65)", "text(2, 1)", "put(2, 0, 66)")
-                .due("text(1, 40)", 40).due("put(0, 39, 0)", 1065).due("put(2, 0, 0)", 1066);
-        Run.test(7, "or missing (at first)").finds(Run.NOTHING, "put(0, 0, 1)", "put(1, 0, 1)", "put(2, 0, 1)", "put(3, 0, 1)");
+        Run.test(7, "A TEXT is there with n blanks: n")
+                .make("text(0, 40)", "put(0, 39, 65)", "text(2, 1)", "put(2, 0, 66)").due("text(1, 40)", 40)
+                .due("put(0, 39, 0)", 1065).due("put(2, 0, 0)", 1066);
+        Run.test(7, "or missing (at first)")
+                .finds(Run.NOTHING, "put(0, 0, 1)", "put(1, 0, 1)", "put(2, 0, 1)", "put(3, 0, 1)");
     }
 
     private static void textRefused() {
@@ -57,21 +61,26 @@ final class TextsBounds {
                 .due("put(0, 1, -128)", 999).due("put(0, 1, -129)", 1000 - 128).due("put(0, 1, MAX)", 1127)
                 .due("put(0, 1, MIN)", 999).due("put(0, 1, 0)", 1000).due("put(0, 0, 0)", 1032);
         // a byte that was cut is as good as another: 326 is F
-        Run.test(8, "cut to a byte").make("text(0, 4)", "put(0, 0, 326)", "put(0, 1, 305)", "put(0, 2, -209)", "put(0, 3, 50)")
+        Run.test(8, "cut to a byte")
+                .make("text(0, 4)", "put(0, 0, 326)", "put(0, 1, 305)", "put(0, 2, -209)", "put(0, 3, 50)")
                 .due("fault(0)", MeshWorlds.NONE).due("field(0)", 1);
-        Run.test(8, "Byte i of a TEXT is v, cut to a byte: what it was, and 1000 more").make("text(0, 40)", "text(1, 40)")
-                .due("put(0, 39, 70)", 1032).due("put(1, 0, 71)", 1032).due("put(0, 39, 1)", 1070);
+        Run.test(8, "Byte i of a TEXT is v, cut to a byte: what it was, and 1000 more")
+                .make("text(0, 40)", "text(1, 40)").due("put(0, 39, 70)", 1032).due("put(1, 0, 71)", 1032)
+                .due("put(0, 39, 1)", 1070);
     }
 
     private static void putRefused() {
         Run.test(8, "BAD").make("text(0, 1)", "text(3, 1)").due("put(0, 0, 1)", 1032).due("put(3, 0, 1)", 1032)
                 .bad("put(-1, 0, 1)", "put(4, 0, 1)", "put(MIN, 0, 1)", "put(MAX, 0, 1)");
         Run.test(8, "the first of these that fits, in this order").bad("put(4, -1, 1)", "put(-1, 40, 1)");
-        Run.test(8, "NOTHING").make("text(1, 1)").finds(Run.NOTHING, "put(0, 0, 1)", "put(3, 0, 1)", "put(2, 40, 1)", "put(2, -1, 1)");
+        Run.test(8, "NOTHING").make("text(1, 1)")
+                .finds(Run.NOTHING, "put(0, 0, 1)", "put(3, 0, 1)", "put(2, 40, 1)", "put(2, -1, 1)");
         Run.test(8, "BEYOND").make("text(0, 3)").due("put(0, 2, 65)", 1032).due("put(0, 0, 65)", 1032)
-                .finds(Run.BEYOND, "put(0, 3, 1)", "put(0, -1, 1)", "put(0, 40, 1)", "put(0, MAX, 1)", "put(0, MIN, 1)");
+                .finds(Run.BEYOND, "put(0, 3, 1)", "put(0, -1, 1)", "put(0, 40, 1)", "put(0, MAX, 1)",
+                "put(0, MIN, 1)");
         Run.test(8, "BEYOND").make("text(0, 0)").finds(Run.BEYOND, "put(0, 0, 1)", "put(0, -1, 1)");
-        Run.test(8, "BEYOND").make("text(0, 40)", "text(1, 40)").due("put(0, 39, 65)", 1032).finds(Run.BEYOND, "put(0, 40, 1)", "put(1, -1, 1)");
+        Run.test(8, "BEYOND").make("text(0, 40)", "text(1, 40)").due("put(0, 39, 65)", 1032)
+                .finds(Run.BEYOND, "put(0, 40, 1)", "put(1, -1, 1)");
         Run.test(8, "BEYOND").make("text(0, 40)", "text(0, 2)").finds(Run.BEYOND, "put(0, 2, 1)", "put(0, 39, 1)");
     }
 
@@ -108,8 +117,8 @@ final class TextsBounds {
         // another sign that looks like one
         fault(BLANKS, "\t", 0);
         fault(BLANKS, "O1\nO1", 2);
-        Run.test(9, BLANKS).make("text(0, 2)", "put(0, 1, 0)").due("fault(0)", 1).make("put(0, 1, 160)").due("fault(0)", 1)
-                .make("put(0, 1, 288)").due("fault(0)", MeshWorlds.NONE);
+        Run.test(9, BLANKS).make("text(0, 2)", "put(0, 1, 0)").due("fault(0)", 1).make("put(0, 1, 160)")
+                .due("fault(0)", 1).make("put(0, 1, 288)").due("fault(0)", MeshWorlds.NONE);
     }
 
     private static void gives() {
@@ -223,7 +232,8 @@ final class TextsBounds {
     }
 
     private static void faultRefused() {
-        Run.test(9, "A FAULT of a TEXT").write(0, "O1").write(3, "P0").due("fault(0)", MeshWorlds.NONE).due("fault(3)", 2);
+        Run.test(9, "A FAULT of a TEXT").write(0, "O1").write(3, "P0").due("fault(0)", MeshWorlds.NONE)
+                .due("fault(3)", 2);
         Run.test(9, "NONE: there is none").write(0, "O1").none("fault(0)").make("text(1, 0)").none("fault(1)");
         Run.test(9, "BAD").make("text(0, 1)", "text(3, 1)").bad("fault(-1)", "fault(4)", "fault(MIN)", "fault(MAX)");
         Run.test(9, "NOTHING").make("text(1, 1)").finds(Run.NOTHING, "fault(0)", "fault(2)", "fault(3)");
@@ -273,8 +283,8 @@ final class TextsBounds {
         Run.test(10, first).law("F1/2 O1 P5 J6").law("J7").make("text(3, 0)").alike("digest()", calls("J7"));
         Run.test(10, first).law("F1/2 O1 P5 J6").law("F2/3").make("text(3, 0)").alike("digest()", calls("F2/3"));
         // no field is told at first: nothing flows, leaves, is PARTED or JOINED
-        Run.test(10, first).make("amount(0, 1000000)", "part(5)").due("tick()", 0).amountIs(0, 1000000).due("over(0)", 0)
-                .due("count(1)", 19);
+        Run.test(10, first).make("amount(0, 1000000)", "part(5)").due("tick()", 0).amountIs(0, 1000000)
+                .due("over(0)", 0).due("count(1)", 19);
         // the text may change behind the call: the field stays
         Run.test(10, said).law("F1/1").make("text(3, 40)", "amount(5, 16)", "tick()").due("flow(5, 6)", 4);
     }

@@ -50,7 +50,8 @@ final class TruthBounds {
         shareIs(odd, 0, 3, 3, 117649, 7762392);
         shareIs(odd, 0, 15, 3, 0, 1);
         // what there is does not count, nor is it changed
-        Run.test(42, said).law("F1/1 P1 J9").make("amount(5, 1000000)", "part(0)").due("share(5, 6, 3)", 1).due("count(1)", 19).amountIs(5, 1000000).due("count(0)", 0);
+        Run.test(42, said).law("F1/1 P1 J9").make("amount(5, 1000000)", "part(0)").due("share(5, 6, 3)", 1)
+                .due("count(1)", 19).amountIs(5, 1000000).due("count(0)", 0);
         // by sides: 97 by 99, an open rim, and CELLS of all sides
         Run small = share(said, "F97/99 O1").make("part(0)", "part(16)");
         shareIs(small, 80, 80, 3, 2569, 352836);
@@ -58,12 +59,14 @@ final class TruthBounds {
         shareIs(small, 1, 17, 3, 4807805, 124198272);
         shareIs(small, 83, 17, 2, 10961, 156816);
         shareIs(small, 80, 1, 3, 912673, 62099136);
-        Run.test(42, "SHARE of a CELL in another one after t, told by upper(), lower(): 1").law("F1/2").make("part(15)", "part(79)").due("share(335, 334, 1)", 1).fraction(1, 8)
-                .due("share(14, 78, 1)", 1).fraction(1, 16).due("share(78, 14, 1)", 1).fraction(1, 8);
+        Run.test(42, "SHARE of a CELL in another one after t, told by upper(), lower(): 1").law("F1/2")
+                .make("part(15)", "part(79)").due("share(335, 334, 1)", 1).fraction(1, 8).due("share(14, 78, 1)", 1)
+                .fraction(1, 16).due("share(78, 14, 1)", 1).fraction(1, 8);
     }
 
     private static void shareOfKinds() {
-        Run edge = share("(an EDGE gives nothing; what comes to it stays there", "F1/1").make("edge(1, false)", "amount(1, 1000)");
+        Run edge = share("(an EDGE gives nothing; what comes to it stays there", "F1/1")
+                .make("edge(1, false)", "amount(1, 1000)");
         shareIs(edge, 1, 1, 3, 1, 1);
         shareIs(edge, 1, 0, 3, 0, 1);
         shareIs(edge, 0, 1, 1, 1, 4);
@@ -85,16 +88,21 @@ final class TruthBounds {
         Run atRim = share("(an EDGE gives nothing; what comes to it stays there", "F1/1 O1").make("edge(0, false)");
         shareIs(atRim, 0, 0, 3, 1, 1);
         shareIs(atRim, 1, 0, 1, 1, 4);
-        Run.test(42, "(not cut), CELLS stay as they are").law("F1/1 P1").make("amount(5, 3)").due("share(5, 6, 1)", 1).fraction(1, 4);
+        Run.test(42, "(not cut), CELLS stay as they are").law("F1/1 P1").make("amount(5, 3)").due("share(5, 6, 1)", 1)
+                .fraction(1, 4);
     }
 
     private static void shareRefused() {
-        Run.test(42, "after t TICKS (0 .. 3)").due("share(0, 0, 0)", 1).due("share(0, 0, 3)", 1).bad("share(0, 0, -1)", "share(0, 0, 4)", "share(0, 0, MIN)", "share(0, 0, MAX)");
-        Run.test(42, "BAD").due("share(0, 15, 1)", 1).due("share(15, 0, 1)", 1).bad("share(-1, 0, 1)", "share(336, 0, 1)", "share(0, -1, 1)", "share(0, 336, 1)")
+        Run.test(42, "after t TICKS (0 .. 3)").due("share(0, 0, 0)", 1).due("share(0, 0, 3)", 1)
+                .bad("share(0, 0, -1)", "share(0, 0, 4)", "share(0, 0, MIN)", "share(0, 0, MAX)");
+        Run.test(42, "BAD").due("share(0, 15, 1)", 1).due("share(15, 0, 1)", 1)
+                .bad("share(-1, 0, 1)", "share(336, 0, 1)", "share(0, -1, 1)", "share(0, 336, 1)")
                 .bad("share(MIN, 0, 1)", "share(0, MAX, 1)");
         Run.test(42, ORDER).bad("share(16, 0, 4)", "share(0, 16, -1)", "share(16, 336, 1)", "share(-1, 16, 1)");
-        Run.test(42, "NOTHING: either").make("keeping(2, 2, 1)").finds(Run.NOTHING, "share(16, 0, 1)", "share(0, 16, 1)", "share(335, 335, 0)", "share(80, 79, 3)")
-                .fraction(7, 2).make("part(3)").finds(Run.NOTHING, "share(3, 0, 1)", "share(0, 3, 1)", "share(3, 3, 0)").due("share(28, 0, 1)", 1);
+        Run.test(42, "NOTHING: either").make("keeping(2, 2, 1)")
+                .finds(Run.NOTHING, "share(16, 0, 1)", "share(0, 16, 1)", "share(335, 335, 0)", "share(80, 79, 3)")
+                .fraction(7, 2).make("part(3)").finds(Run.NOTHING, "share(3, 0, 1)", "share(0, 3, 1)", "share(3, 3, 0)")
+                .due("share(28, 0, 1)", 1);
     }
 
     private static Run mostIs(Run run, int to, int t, int from, long above, long below) {
@@ -122,7 +130,8 @@ final class TruthBounds {
         mostIs(corner, 335, 3, 333, 9, 128);
         mostIs(corner, 78, 3, 332, 3, 32);
         // no CELL has a share: the first that is there counts, with 0 by 1
-        Run none = Run.test(43, first).law("F1/1").make("edge(1, false)", "edge(4, false)", "edge(6, false)", "edge(9, false)");
+        Run none = Run.test(43, first).law("F1/1")
+                .make("edge(1, false)", "edge(4, false)", "edge(6, false)", "edge(9, false)");
         mostIs(none, 5, 2, 0, 0, 1);
         mostIs(none.make("part(0)"), 5, 2, 1, 0, 1);
         mostIs(none, 5, 0, 5, 1, 1);
@@ -132,17 +141,24 @@ final class TruthBounds {
     }
 
     private static void mostRefused() {
-        Run.test(43, "BAD").due("most(0, 0)", 0).due("most(15, 3)", 15).bad("most(-1, 0)", "most(336, 0)", "most(MIN, 0)", "most(MAX, 0)", "most(0, -1)", "most(0, 4)", "most(0, MIN)")
-                .bad("most(0, MAX)");
+        Run.test(43, "BAD").due("most(0, 0)", 0).due("most(15, 3)", 15).bad("most(-1, 0)", "most(336, 0)",
+                "most(MIN, 0)", "most(MAX, 0)", "most(0, -1)", "most(0, 4)", "most(0, MIN)").bad("most(0, MAX)");
         Run.test(43, ORDER).bad("most(16, 4)", "most(335, -1)");
-        Run.test(43, "NOTHING").make("keeping(2, 2, 1)").finds(Run.NOTHING, "most(16, 0)", "most(79, 3)", "most(335, 3)").make("part(3)").finds(Run.NOTHING, "most(3, 0)").fraction(7, 2);
+        Run.test(43, "NOTHING").make("keeping(2, 2, 1)")
+                .finds(Run.NOTHING, "most(16, 0)", "most(79, 3)", "most(335, 3)").make("part(3)")
+                .finds(Run.NOTHING, "most(3, 0)").fraction(7, 2);
     }
 
     private static void off() {
         String said = "t times its neighbours (CELLS with which FLOWS may be; the open rim counts as one)";
-        Run.test(44, said).due("off(5, 0)", 0).due("off(5, 1)", 4).due("off(5, 20)", 80).due("off(0, 20)", 40).due("off(1, 1)", 3).due("off(15, 1)", 2);
+        Run.test(44, said).due("off(5, 0)", 0).due("off(5, 1)", 4).due("off(5, 20)", 80).due("off(0, 20)", 40)
+                .due("off(1, 1)", 3).due("off(15, 1)", 2);
         // a corner's two sides at the rim are one
-        Run.test(44, said).law("O1").due("off(0, 1)", 3).due("off(15, 20)", 60).due("off(1, 1)", 4).due("off(5, 20)", 80).law("O0").due("off(0, 1)", 2);
+        Run.test(44, said).law("O1").due("off(0, 1)", 3).due("off(15, 20)", 60).due("off(1, 1)", 4)
+                .due("off(5, 20)", 80).law("O0").due("off(0, 1)", 2);
+        // one side at the rim is enough
+        Run.test(44, said).law("O1").make("part(0)", "part(16)").due("off(81, 1)", 4).due("off(80, 1)", 3)
+                .due("off(83, 1)", 4).law("O0").due("off(81, 1)", 3);
         // a great one with ones around it has sixteen
         Run around = Run.test(44, said);
         for (int c : new int[] {1, 4, 6, 9}) {
@@ -151,19 +167,26 @@ final class TruthBounds {
                 around.make("part(" + (16 + 4 * c + q) + ")");
             }
         }
-        around.due("off(5, 1)", 16).due("off(5, 20)", 320).due("off(0, 1)", 8).law("O1").due("off(0, 20)", 180).due("off(80, 1)", MeshWorlds.FINDING);
-        Run.test(44, said).make("part(15)", "part(79)").due("off(335, 20)", 40).due("off(332, 1)", 4).due("off(77, 1)", 4).law("O1").due("off(335, 20)", 60).due("off(77, 1)", 5);
+        around.due("off(5, 1)", 16).due("off(5, 20)", 320).due("off(0, 1)", 8).law("O1").due("off(0, 20)", 180)
+                .due("off(80, 1)", MeshWorlds.FINDING);
+        Run.test(44, said).make("part(15)", "part(79)").due("off(335, 20)", 40).due("off(332, 1)", 4)
+                .due("off(77, 1)", 4).law("O1").due("off(335, 20)", 60).due("off(77, 1)", 5);
         // FROZEN ones are none, and have none; EDGES are
-        Run.test(44, said).law("O1").make("freeze(1, false)", "freeze(4, false)").due("off(0, 20)", 20).due("off(5, 1)", 2).due("off(1, 20)", 0).law("").due("off(0, 20)", 0);
+        Run.test(44, said).law("O1").make("freeze(1, false)", "freeze(4, false)").due("off(0, 20)", 20)
+                .due("off(5, 1)", 2).due("off(1, 20)", 0).law("").due("off(0, 20)", 0);
         Run.test(44, said).make("edge(1, false)").due("off(0, 1)", 2).due("off(1, 1)", 3).due("off(5, 1)", 4);
         // what F tells does not count
-        Run.test(44, "OFF of a CELL after t").law("F1/1").due("off(5, 3)", 12).law("F0/1").due("off(5, 3)", 12).changesNothing("off(5, 3)", "off(0, 20)");
+        Run.test(44, "OFF of a CELL after t").law("F1/1").due("off(5, 3)", 12).law("F0/1").due("off(5, 3)", 12)
+                .changesNothing("off(5, 3)", "off(0, 20)");
     }
 
     private static void offRefused() {
-        Run.test(44, "in t TICKS (0 .. 20)").due("off(5, 0)", 0).due("off(5, 20)", 80).bad("off(5, -1)", "off(5, 21)", "off(5, MIN)", "off(5, MAX)");
-        Run.test(44, "BAD").due("off(0, 1)", 2).due("off(15, 1)", 2).bad("off(-1, 1)", "off(336, 1)", "off(MIN, 1)", "off(MAX, 1)");
+        Run.test(44, "in t TICKS (0 .. 20)").due("off(5, 0)", 0).due("off(5, 20)", 80)
+                .bad("off(5, -1)", "off(5, 21)", "off(5, MIN)", "off(5, MAX)");
+        Run.test(44, "BAD").due("off(0, 1)", 2).due("off(15, 1)", 2)
+                .bad("off(-1, 1)", "off(336, 1)", "off(MIN, 1)", "off(MAX, 1)");
         Run.test(44, ORDER).bad("off(16, 21)", "off(335, -1)");
-        Run.test(44, "NOTHING").finds(Run.NOTHING, "off(16, 0)", "off(79, 20)", "off(335, 1)").make("part(3)").finds(Run.NOTHING, "off(3, 0)", "off(3, 20)");
+        Run.test(44, "NOTHING").finds(Run.NOTHING, "off(16, 0)", "off(79, 20)", "off(335, 1)").make("part(3)")
+                .finds(Run.NOTHING, "off(3, 0)", "off(3, 20)");
     }
 }
